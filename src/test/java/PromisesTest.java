@@ -36,6 +36,7 @@ public final class PromisesTest {
         whenTells();
         brokeTells();
         allTells();
+        allUpTo200();
         stoolForTells();
         lightForTells();
         turnForTells();
@@ -185,10 +186,12 @@ public final class PromisesTest {
         y.sitter(4, 10);
         y.change(0, 2, 9);
         y.change(0, 5, 9);
+        y.change(0, 6, 9);
         y.undo();
         due("6 again", y.sitter(1, 30), 0);
         due("6 as at first", y.of(0, 2), 5);
         due("6 as at first", y.of(0, 5), 0);
+        due("6 as at first", y.of(0, 6), 0);
     }
 
     // Promise 7
@@ -697,6 +700,39 @@ public final class PromisesTest {
         due("17 findings", x.status(3), 2);
     }
 
+    /** One turns the stool away until its COINS are gone; then it comes back, turn by turn of another. */
+    private static BoothFlash withOneWhoTurns(int coins) {
+        BoothFlash x = new BoothFlash();
+        x.sitter(0, 60);
+        x.sitter(0, 0);
+        x.queue(0, 1);
+        x.queue(1, 0);
+        x.queue(5, 1);
+        x.set(2, 20);
+        x.change(0, 4, 999);
+        x.change(1, 4, coins);
+        x.change(1, 5, 1);
+        x.set(0, 40);
+        return x;
+    }
+
+    private static void allUpTo200() {
+        int atTheLast = 0;
+        int tooLate = 0;
+        for (int coins = 700; coins <= 999; coins += 5) {
+            BoothFlash x = withOneWhoTurns(coins);
+            int want = NONE;
+            for (int n = 200; n >= 0 && x.ahead(0, 5, n) > 0; n--) {
+                want = n;
+            }
+            due("17 coins " + coins, x.all(), want);
+            due("15 coins " + coins, x.when(0, 1), want);
+            atTheLast += want == 200 ? 1 : 0;
+            tooLate += want == NONE ? 1 : 0;
+        }
+        CHECK.isTrue("17 some at 200, some too late", atTheLast > 0 && tooLate > 0);
+    }
+
     // Promise 18
     private static void stoolForTells() {
         BoothFlash x = new BoothFlash();
@@ -862,6 +898,17 @@ public final class PromisesTest {
         due("24 not even so", y.away(2, 1, 3), NONE);
         y.set(0, 14);
         due("24 both of them", y.away(2, 1, 3), 3);
+        BoothFlash z = new BoothFlash();
+        for (int s = 0; s < 3; s++) {
+            z.sitter(0, 90);
+        }
+        z.sitter(1, 60);
+        z.queue(1, 2);
+        z.queue(2, 2);
+        z.queue(3, 0);
+        z.queue(4, 1);
+        z.queue(5, 3);
+        due("24 the fewest, though two others are a lesser number", z.away(3, 1, 6), 4);
     }
 
     // Promises 25 and 26

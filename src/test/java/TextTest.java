@@ -112,6 +112,12 @@ public final class TextTest {
         fault("sit", 0);
         fault("s", 0);
         fault("Old", 0);
+        fault("oldz", 0);
+        fault("aold", 0);
+        fault("bld", 0);
+        fault("xitter", 0);
+        fault("night 3", 0);
+        fault("old fall 3", 4);
         fault("tall 3", 0);
         fault("5", 0);
         fault(";", 0);
