@@ -38,6 +38,7 @@ public final class BoothEdgesTest {
         smilesOfTwin();
         shinesAbove();
         lightBelowTwo();
+        eachFaultAlone();
         allFaultsAtOnce();
         faultsHasFourFlashes();
         bestIsTheLeastOfSeveral();
@@ -432,7 +433,28 @@ public final class BoothEdgesTest {
         }
     }
 
-    // Terms 1: FAULTS of a FLASH, as a set
+    // Terms 1: FAULTS of a FLASH, as a set: each alone
+    private static void eachFaultAlone() {
+        BoothFlash x = one(2, 60);
+        due("9 none", x.faults(0, 0), 0);
+        x.change(0, 1, 63);
+        due("9 OFF alone", x.faults(0, 0), 1);
+        x.change(0, 1, 60);
+        x.change(0, 2, 4);
+        due("9 SHUT alone", x.faults(0, 0), 2);
+        x.change(0, 2, 5);
+        x.change(0, 3, 6);
+        due("9 SMILES alone", x.faults(0, 0), 4);
+        x.change(0, 3, 5);
+        x.set(1, 7);
+        due("9 SHINES alone", x.faults(0, 0), 8);
+        x.set(1, 1);
+        due("9 LIGHT alone", x.faults(0, 0), 16);
+        x.set(1, 2);
+        due("9 none again", x.faults(0, 0), 0);
+    }
+
+    // Terms 1: FAULTS of a FLASH, as a set: several
     private static void allFaultsAtOnce() {
         BoothFlash x = one(2, 90);
         x.change(0, 3, 9);

@@ -35,6 +35,7 @@ public final class FutureEdgesTest {
         turnForLeastOfSeveral();
         turnForWraps();
         turnForTooAndInstead();
+        turnForTakenNotTried();
         kindForBounds();
         kindForLeastOfSeveral();
         kindForMost();
@@ -485,6 +486,22 @@ public final class FutureEdgesTest {
         due("20 who is there stays", y.place(3), 1);
     }
 
+    // Promise 20: so that TAKEN of it (not TRIED) is most
+    private static void turnForTakenNotTried() {
+        BoothFlash x = new BoothFlash();
+        x.sitter(0, 60);
+        x.sitter(0, 60);
+        x.queue(1, 1);
+        x.set(0, 28);
+        due("20 another gets the STOOL back before", x.turnFor(0, 6), 2);
+        x.set(0, 30);
+        due("20 just on the line", x.turnFor(0, 6), 2);
+        x.set(0, 31);
+        due("20 too far off: all alike", x.turnFor(0, 6), 0);
+        x.set(0, 26);
+        due("20 it isn't needed", x.turnFor(0, 6), 0);
+    }
+
     // Promise 21: n (0 to 60). BEYOND.
     private static void kindForBounds() {
         EDGE.within("21 n", Edge::three, 0, 60, (x, n) -> x.kindFor(0, n));
@@ -661,7 +678,15 @@ public final class FutureEdgesTest {
         y.queue(1, 4);
         y.queue(2, 1);
         y.queue(3, 2);
-        due("24 1, 2, or 4, twice in it", y.away(0, 1, 6), 1 << 1 | 1 << 4);
+        due("24 one of 1 and 2, and 4, twice in it", y.away(0, 1, 6), 1 << 1 | 1 << 4);
+        BoothFlash z = amongTurners(8, 18);
+        z.queue(0, 7);
+        z.queue(1, 7);
+        z.queue(2, 1);
+        z.queue(3, 2);
+        due("24 7 alone: fewer than 1 and 2, though these are a lesser set", z.away(0, 1, 6), 1 << 7);
+        z.queue(1, 6);
+        due("24 any two of four: the least set", z.away(0, 1, 6), 1 << 1 | 1 << 2);
     }
 
     private static void awayFiveOfThem() {

@@ -285,7 +285,7 @@ public final class ImageEdgesTest {
             x.hold(spot, 0);
         }
         x.set(3, 99999);
-        while (x.count(5) < 120) {
+        for (int i = 0; i < 120; i++) {
             x.feed(0, 1);
         }
         x.seed(Edge.GREATEST);
@@ -346,7 +346,7 @@ public final class ImageEdgesTest {
 
     private static BoothFlash findable() {
         BoothFlash x = new BoothFlash();
-        while (x.count(5) < 120) {
+        for (int i = 0; i < 30; i++) {
             x.feed(0, 4);
         }
         return x;
@@ -394,7 +394,7 @@ public final class ImageEdgesTest {
 
     private static void statusAll() {
         BoothFlash x = new BoothFlash();
-        for (int i = 1; i <= 200; i++) {
+        for (int i = 1; i <= 150; i++) {
             x.booth(4);
             due("45 all " + i, x.status(-1), i);
             due("45 BEYOND " + i, x.status(0), i);

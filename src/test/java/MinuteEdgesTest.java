@@ -66,7 +66,7 @@ public final class MinuteEdgesTest {
 
     /** More MINUTES than 512 calls bring: what is behind them is free, and stands as its words say. */
     private static BoothFlash inMinute(BoothFlash x, int minute) {
-        while (minute - x.now(0) >= 100) {
+        for (int i = 0; i < 1000 && minute - x.now(0) >= 100; i++) {
             x.go(100);
         }
         if (x.now(0) < minute) {

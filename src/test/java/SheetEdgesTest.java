@@ -173,10 +173,10 @@ public final class SheetEdgesTest {
 
     // Promise 44: SPOTS that hold something
     private static void spotsCounted() {
-        BoothFlash x = sitters(1);
+        BoothFlash x = sitters(8);
         for (int spot = 0; spot < 10; spot++) {
             due("44 spots", x.count(7), spot);
-            x.hold(spot, 0);
+            x.hold(spot, (spot + 7) % 8);
         }
         due("44 all ten", x.count(7), 10);
         for (int spot = 0; spot < 10; spot++) {
@@ -317,6 +317,7 @@ public final class SheetEdgesTest {
     // Promise 37: v (its lowest bits)
     private static void writeLowestBits() {
         int[] v = {5, 256 + 5, 65536 + 5, (1 << 31) + 5, (255 << 24) + 5, -256 + 5, -65536 + 5, 128, 255, 300};
+        int[] asked = {0, 1, 5, 44, 127, 128, 251, 255, 256, 261, 300};
         int[][] held = {
             {5, 5, 5, 5, 5, 5, 5, -1, -1, 44},
             {5, 261, 5, 5, 5, -1, 5, 128, 255, 300},
@@ -328,7 +329,7 @@ public final class SheetEdgesTest {
                 x.sheet(0, BITS[b], 1);
                 due("37 write " + v[i], x.write(0, 0, v[i]), 1);
                 int matches = -1;
-                for (int taken = 0; taken < 310; taken++) {
+                for (int taken : asked) {
                     x.change(0, 5, taken);
                     matches = x.judge(0) == 0 ? taken : matches;
                 }

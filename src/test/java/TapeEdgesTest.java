@@ -62,8 +62,9 @@ public final class TapeEdgesTest {
     private static Edge.Maker fed(Edge.Maker maker, int bytes) {
         return () -> {
             BoothFlash x = maker.make();
-            while (x.count(5) < bytes) {
-                x.feed(' ', 1);
+            int four = ' ' * 0x01010101;
+            for (int left = bytes - x.count(5); left > 0; left -= 4) {
+                x.feed(four, Math.min(4, left));
             }
             return x;
         };
@@ -241,7 +242,9 @@ public final class TapeEdgesTest {
         fault("z", 0);
         fault("a", 0);
         fault("zold", 0);
+        fault("aold", 0);
         fault("olda", 0);
+        fault("oldz", 0);
         fault("old`", 3);
         fault("old{", 3);
         fault("`old", 0);
@@ -254,6 +257,7 @@ public final class TapeEdgesTest {
             fine(item, 1);
             fault(item.substring(1), 0);
             fault("x" + item, 0);
+            fault("x" + item.substring(1), 0);
         }
         for (String kind : KINDS) {
             fault(kind.substring(0, kind.length() - 1), 0);
