@@ -545,6 +545,11 @@ public final class MinuteEdgesTest {
         BoothFlash y = one(5, 60);
         y.change(0, 3, 9);
         due("12 all but FLASH 0 SMILE", y.now(6), 0);
+        BoothFlash c = one(1, 60);
+        c.change(0, 3, 5);
+        due("12 all four of a CHILD SMILE", c.now(6), 4);
+        c.change(0, 3, 4);
+        due("12 all but FLASH 0 of a CHILD SMILE", c.now(6), 0);
         BoothFlash z = one(1, 60);
         z.set(1, 8);
         due("12 all four are SHUT", z.now(6), 2);
